@@ -400,7 +400,7 @@ public final class MatchHall {
         }
 
         boolean isStable() {
-            return isMatching() && countBlocking() == 0;
+            return isMatching() && blockingPair(0) == NONE;
         }
 
         int countBlocking() {
@@ -430,26 +430,31 @@ public final class MatchHall {
             return NONE;
         }
 
-        /** A pair of the matching itself never does: no resident lists a hospital before itself. */
-        boolean isBlockedBy(int resident, int hospital) {
+        /** A pair of the matching needs no test: no list has its resident's hospital before itself. */
+        private boolean isBlockedBy(int resident, int hospital) {
             return hall.isPair(resident, hospital)
                 && wouldGo(resident, hospital)
                 && wouldGet(hospital, resident);
         }
 
-        boolean wouldGo(int resident, int hospital) {
+        private boolean wouldGo(int resident, int hospital) {
+            int[] places = hall.ofResidents.places[resident];
             int own = hospitalOf[resident];
-            return own == NONE
-                || hall.placeOfHospital(resident, hospital) < hall.placeOfHospital(resident, own);
+            return own == NONE || places[hospital] < places[own];
         }
 
         private boolean wouldGet(int hospital, int resident) {
-            if (countAt(hospital) < hall.seatsOf[hospital]) {
-                return true;
+            int[] places = hall.ofHospitals.places[hospital];
+            int taken = 0;
+            for (int other = 0; other < hall.residents; other++) {
+                if (hospitalOf[other] == hospital) {
+                    taken++;
+                    if (places[resident] < places[other]) {
+                        return true;
+                    }
+                }
             }
-            int last = lastAt(hospital);
-            return last != NONE
-                && hall.placeOfResident(hospital, resident) < hall.placeOfResident(hospital, last);
+            return taken < hall.seatsOf[hospital];
         }
 
         /** Whether a resident and the hospital of another one would rather have each other. */
@@ -640,7 +645,8 @@ public final class MatchHall {
         /** The resident's number is the depth: no level is deeper than the last resident's. */
         private void seatFrom(int resident) {
             if (resident >= hall.residents) {
-                if (trial.isStable()) {
+                // only pairs are tried and no seat twice, so it is a matching
+                if (trial.blockingPair(0) == NONE) {
                     stables.add(trial);
                 }
                 return;
