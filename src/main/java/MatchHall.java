@@ -467,10 +467,11 @@ public final class MatchHall {
         }
     }
 
-    /** All stable matchings by their numbers, one behind the other in a single row. */
+    /** All stable matchings by their numbers, one after the other in a single row. */
     private static final class Stables {
         private final Hall hall;
         private final int[] hospitals = new int[MOST_MATCHINGS * MOST];
+        private final int[] places = new int[MOST_MATCHINGS * MOST];
         private int size;
 
         Stables(Hall ofHall) {
@@ -482,10 +483,14 @@ public final class MatchHall {
         }
 
         void add(Matching matching) {
-            if (size < MOST_MATCHINGS) {
-                System.arraycopy(matching.hospitalOf, 0, hospitals, size * MOST, MOST);
-                size++;
+            if (size == MOST_MATCHINGS) {
+                return;
             }
+            System.arraycopy(matching.hospitalOf, 0, hospitals, size * MOST, MOST);
+            for (int resident = 0; resident < hall.residents; resident++) {
+                places[size * MOST + resident] = hall.placeOfHospital(resident, matching.hospitalOf[resident]);
+            }
+            size++;
         }
 
         void copyTo(Matching target, int matching) {
@@ -497,7 +502,7 @@ public final class MatchHall {
         }
 
         int placeAt(int matching, int resident) {
-            return hall.placeOfHospital(resident, hospitalAt(matching, resident));
+            return places[matching * MOST + resident];
         }
 
         int find(Matching wanted) {
@@ -520,8 +525,10 @@ public final class MatchHall {
 
         /** Who has no hospital has none in both, so that its place is the same. */
         boolean isBehind(int i, int k) {
+            int first = i * MOST;
+            int second = k * MOST;
             for (int resident = 0; resident < hall.residents; resident++) {
-                if (placeAt(k, resident) < placeAt(i, resident)) {
+                if (places[second + resident] < places[first + resident]) {
                     return false;
                 }
             }
@@ -546,7 +553,7 @@ public final class MatchHall {
             for (int resident = 0; resident < hall.residents; resident++) {
                 int hospital = hospitalAt(matching, resident);
                 if (hospital != NONE) {
-                    int mine = hall.placeOfHospital(resident, hospital);
+                    int mine = placeAt(matching, resident);
                     int theirs = hall.placeOfResident(hospital, resident);
                     ofResidents += mine;
                     ofHospitals += theirs;
@@ -592,7 +599,6 @@ public final class MatchHall {
             trial.clear();
             letAllAsk();
             noteLimits();
-            trial.clear();
             seatFrom(0);
         }
 
@@ -645,13 +651,14 @@ public final class MatchHall {
         /** The resident's number is the depth: no level is deeper than the last resident's. */
         private void seatFrom(int resident) {
             if (resident >= hall.residents) {
-                // only pairs are tried and no seat twice, so it is a matching
+                // only pairs are tried, and no more than there are seats: it is a matching
                 if (trial.blockingPair(0) == NONE) {
                     stables.add(trial);
                 }
                 return;
             }
             if (bestPlace[resident] == NONE) {
+                // it has no hospital in the trial from the start on
                 seatFrom(resident + 1);
                 return;
             }
@@ -670,7 +677,6 @@ public final class MatchHall {
                 seatFrom(resident + 1);
             }
             toFill[hospital]++;
-            trial.hospitalOf[resident] = NONE;
         }
 
         /** Two rivals block whatever the residents after them get, so none of those is tried. */
@@ -689,6 +695,7 @@ public final class MatchHall {
         private final Stables stables;
         private final int[] from = new int[MOST_ROTATIONS];
         private final int[] to = new int[MOST_ROTATIONS];
+        private final int[] keys = new int[MOST_ROTATIONS];
         private final int[] doneIn = new int[MOST_MATCHINGS];
         private int size;
 
@@ -701,50 +708,54 @@ public final class MatchHall {
         }
 
         void findAll() {
-            for (int i = 0; i < stables.size; i++) {
-                for (int k = i + 1; k < stables.size; k++) {
-                    if (isStep(i, k)) {
-                        add(i, k);
-                    }
-                }
+            for (int start = 0; start < stables.size; start++) {
+                addFirstStep(start);
             }
             for (int matching = 0; matching < stables.size; matching++) {
                 doneIn[matching] = doneMask(matching);
             }
         }
 
-        /** What is behind another one has a greater number, so a third one lies between them. */
-        private boolean isStep(int i, int k) {
-            if (!stables.isBehind(i, k)) {
-                return false;
-            }
-            for (int third = i + 1; third < k; third++) {
-                if (stables.isBehind(i, third) && stables.isBehind(third, k)) {
-                    return false;
+        /**
+         * What is behind another one has a greater number: the first that is behind the start has no
+         * third one before it. These steps have all rotations, as in the last of the stable matchings
+         * in which a rotation is not done yet, all others that are not done come after it.
+         */
+        private void addFirstStep(int start) {
+            for (int end = start + 1; end < stables.size; end++) {
+                if (stables.isBehind(start, end)) {
+                    add(start, end);
+                    return;
                 }
             }
-            return true;
         }
 
         private void add(int start, int end) {
             int key = orderKey(start, end);
             int k = 0;
-            while (k < size && orderKey(from[k], to[k]) < key) {
+            while (k < size && keys[k] < key) {
                 k++;
             }
-            boolean isKnown = k < size && orderKey(from[k], to[k]) == key;
+            boolean isKnown = k < size && keys[k] == key;
             if (isKnown || size == MOST_ROTATIONS) {
                 return;
             }
-            for (int later = size; later > k; later--) {
-                from[later] = from[later - 1];
-                to[later] = to[later - 1];
-            }
+            makeRoomAt(k);
             from[k] = start;
             to[k] = end;
+            keys[k] = key;
             size++;
         }
 
+        private void makeRoomAt(int k) {
+            for (int later = size; later > k; later--) {
+                from[later] = from[later - 1];
+                to[later] = to[later - 1];
+                keys[later] = keys[later - 1];
+            }
+        }
+
+        /** Rotations are numbered by this, and no two have the same. */
         private int orderKey(int start, int end) {
             int least = moverOf(start, end, 0);
             return least == NONE ? NONE : least * MOST + stables.placeAt(start, least);
