@@ -170,7 +170,8 @@ final class Halls {
             + "; worked out " + matchings(hall, residents) + " by " + rotations(hall)
             + ", pairs " + hall.count(2) + ", seated " + hall.count(3) + ", check " + hall.check()
             + "; told number " + hall.which() + ", fits " + hall.fits() + ", blocked by " + blockingPairs(hall)
-            + "; more " + hall.forget(0, residents) + " and " + hall.forget(1, hospitals);
+            + "; more " + hall.hospital(0, residents) + " and " + hall.forget(0, residents)
+            + " and " + hall.forget(1, hospitals);
     }
 
     /** What all calls answer that ask for what is worked out, each for its first one. */

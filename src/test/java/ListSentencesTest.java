@@ -312,13 +312,13 @@ public final class ListSentencesTest {
     @Holds(promise = 4, sentence = "NONE, and nothing is done, when it lists it already")
     static void preferRefusesOneThatIsListed() {
         MatchHall hall = Halls.of("10 0", "01 1");
-        Due.is("the first of a full list", hall.prefer(0, 0, 1), NONE);
-        Due.is("the last of a full list", hall.prefer(0, 0, 0), NONE);
-        Due.is("the only one", hall.prefer(0, 1, 0), NONE);
-        Due.is("the first of a hospital's", hall.prefer(1, 0, 0), NONE);
-        Due.is("the last of a hospital's", hall.prefer(1, 0, 1), NONE);
-        Due.is("residents", Halls.listsOf(hall, 0, 2), "10 0");
-        Due.is("hospitals", Halls.listsOf(hall, 1, 2), "01 1");
+        int[][] listed = {{0, 0, 1}, {0, 0, 0}, {0, 1, 0}, {1, 0, 0}, {1, 0, 1}, {1, 1, 1}};
+        for (int[] call : listed) {
+            String what = "prefer(" + call[0] + ", " + call[1] + ", " + call[2] + ")";
+            Due.is(what, hall.prefer(call[0], call[1], call[2]), NONE);
+            Due.is("residents after " + what, Halls.listsOf(hall, 0, 2), "10 0");
+            Due.is("hospitals after " + what, Halls.listsOf(hall, 1, 2), "01 1");
+        }
     }
 
     @Holds(promise = 4, sentence = "NONE, and nothing is done, when it lists it already")

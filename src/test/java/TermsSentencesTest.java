@@ -38,6 +38,16 @@ public final class TermsSentencesTest {
         Due.is("matchings", Halls.matchings(hall, 6), "000111 100110 110100 111000");
     }
 
+    @Holds(promise = 0, sentence = "Each resident LISTS some hospitals, each hospital some residents, the better ones first")
+    static void listsMayBeEmptyOrFullTheBetterFirst() {
+        MatchHall hall = Halls.worked("- 543210 0 - - -", "12 1 1 1 1 1");
+        Due.is("the first of a full list is the best", hall.hospital(0, 1), 5);
+        Due.is("the only one of a list", hall.hospital(0, 2), 0);
+        Due.is("the empty list", hall.hospital(0, 0), NONE);
+        MatchHall wanted = Halls.worked("0 0 0 0 0 0", "524130 - - - - -");
+        Due.is("the first of a hospital's full list is the best", Halls.matchings(wanted, 6), "-----0");
+    }
+
     @Holds(promise = 0, sentence = "the PLACE of one in a list is counted from 0.")
     static void placesAreCountedFromNought() {
         MatchHall hall = Halls.worked("102", "0 0 0");
@@ -153,6 +163,21 @@ public final class TermsSentencesTest {
 
     // ---- stable matchings and their numbers
 
+    @Holds(promise = 0, sentence = "A matching that no pair blocks is STABLE.")
+    static void justThoseThatNoPairBlocksAreNumbered() {
+        MatchHall hall = Halls.chain();
+        int stable = 0;
+        for (int row = 0; row < 64; row++) {
+            hall.tell(0, row / 16 - 1);
+            hall.tell(1, row / 4 % 4 - 1);
+            hall.tell(2, row % 4 - 1);
+            boolean isStable = hall.blocks() == 0;
+            Due.is("which() has a number, row " + row, hall.which() == NONE ? 0 : 1, isStable ? 1 : 0);
+            stable += isStable ? 1 : 0;
+        }
+        Due.is("rows that no pair blocks", stable, 3);
+    }
+
     @Holds(promise = 0, sentence = "There is always one; the same residents have hospitals in all of them.")
     static void thereIsAlwaysOne() {
         MatchHall hall = new MatchHall();
@@ -211,6 +236,10 @@ public final class TermsSentencesTest {
         Due.is("rotations of three in a row", Halls.chain().count(1), 2);
         Due.is("rotations of six in a row", Halls.longChain().count(1), 5);
         Due.is("rotations of a square", Halls.twice().count(1), 2);
+        MatchHall four = Halls.worked("0123 1032 2301 3210", "3210 2301 1032 0123");
+        for (int k = 0; k < 6; k++) {
+            Due.is("rotation(" + k + ", 2, 0), as none of them moves three", four.rotation(k, 2, 0), NONE);
+        }
     }
 
     @Holds(promise = 0, sentence = "all residents that have not the same hospital in both, each with the one that it leaves and the one that it gets")
@@ -234,6 +263,22 @@ public final class TermsSentencesTest {
         Due.is("by places, not numbers", Halls.rotations(places), "021 110 202 | 010 102 221");
         MatchHall four = Halls.worked("0123 1032 2301 3210", "3210 2301 1032 0123");
         Due.is("by both", Halls.rotations(four), "001 110 | 012 321 | 023 132 | 103 230 | 223 332 | 201 310");
+    }
+
+    @Holds(promise = 0, sentence = "(No two have both the same.)")
+    static void noTwoRotationsHaveBothTheSame() {
+        MatchHall hall = Halls.triangle();
+        int last = NONE;
+        for (int k = 0; k < 15; k++) {
+            int least = hall.rotation(k, 0, 0);
+            int leaves = hall.rotation(k, 0, 1);
+            int place = 0;
+            while (place < 6 && hall.listed(0, least, place) != leaves) {
+                place++;
+            }
+            Due.is("rotation " + k + " comes after the one before", 6 * least + place > last ? 1 : 0, 1);
+            last = 6 * least + place;
+        }
     }
 
     @Holds(promise = 0, sentence = "A rotation is DONE in a stable matching in which its least resident has the hospital that it gets by it, or one that it lists later.")
@@ -395,61 +440,69 @@ public final class TermsSentencesTest {
 
     // ---- what throws
 
-    /** Seats are seen by work alone, so the same must come of it before and after the refused calls. */
-    private static void dueUnchanged(MatchHall hall, int residents, int hospitals, Runnable refused) {
-        hall.tell(0, 0);
-        hall.tell(1, NONE);
-        String before = Halls.stateOf(hall, residents, hospitals);
-        refused.run();
-        Due.is("what was worked out and told", Halls.stateOf(hall, residents, hospitals), before);
-        hall.work();
-        Due.is("what is worked out again", Halls.stateOf(hall, residents, hospitals), before);
+    /** A call that is refused, with what it throws. */
+    private interface Refused {
+        void by(MatchHall hall);
+    }
+
+    /**
+     * Each refused call has a hall of its own, so that none mends what another one spoils. Seats are
+     * seen by work alone, so the same must come of it before and after the call.
+     */
+    private static void dueUnchanged(Refused... calls) {
+        for (Refused call : calls) {
+            MatchHall hall = Halls.seated();
+            hall.tell(0, 0);
+            hall.tell(1, 1);
+            String before = Halls.stateOf(hall, 4, 3);
+            call.by(hall);
+            Due.is("what was worked out and told", Halls.stateOf(hall, 4, 3), before);
+            hall.work();
+            Due.is("what is worked out again", Halls.stateOf(hall, 4, 3), before);
+            Due.throwsIndex("tell(4, NONE)", () -> hall.tell(4, NONE));
+            Due.throwsIndex("tell(0, 3)", () -> hall.tell(0, 3));
+        }
     }
 
     @Holds(promise = 0, sentence = "What throws changes nothing")
     static void makeThatThrowsChangesNothing() {
-        MatchHall hall = Halls.seated();
-        dueUnchanged(hall, 4, 3, () -> {
-            Due.throwsArgument("make(0, 3)", () -> hall.make(0, 3));
-            Due.throwsArgument("make(1, 7)", () -> hall.make(1, 7));
-            Due.throwsArgument("make(6, 0)", () -> hall.make(6, 0));
-            Due.throwsArgument("make(7, 6)", () -> hall.make(7, 6));
-        });
+        dueUnchanged(
+            hall -> Due.throwsArgument("make(0, 3)", () -> hall.make(0, 3)),
+            hall -> Due.throwsArgument("make(7, 2)", () -> hall.make(7, 2)),
+            hall -> Due.throwsArgument("make(7, 6)", () -> hall.make(7, 6)),
+            hall -> Due.throwsArgument("make(4, 0)", () -> hall.make(4, 0)),
+            hall -> Due.throwsArgument("make(1, 7)", () -> hall.make(1, 7)),
+            hall -> Due.throwsArgument("make(6, 7)", () -> hall.make(6, 7)),
+            hall -> Due.throwsArgument("make(0, 7)", () -> hall.make(0, 7)));
     }
 
     @Holds(promise = 0, sentence = "What throws changes nothing")
     static void seatsThatThrowsChangesNothing() {
-        MatchHall hall = Halls.seated();
-        dueUnchanged(hall, 4, 3, () -> {
-            for (int many : Halls.outside(1, 3)) {
-                Due.throwsArgument("seats(0, " + many + ")", () -> hall.seats(0, many));
-            }
-            Due.throwsIndex("seats(3, 1)", () -> hall.seats(3, 1));
-            Due.throwsIndex("seats(-1, 3)", () -> hall.seats(-1, 3));
-        });
+        dueUnchanged(
+            hall -> Due.throwsArgument("seats(0, 0)", () -> hall.seats(0, 0)),
+            hall -> Due.throwsArgument("seats(0, 4)", () -> hall.seats(0, 4)),
+            hall -> Due.throwsArgument("seats(2, -1)", () -> hall.seats(2, -1)),
+            hall -> Due.throwsArgument("seats(2, 4)", () -> hall.seats(2, 4)),
+            hall -> Due.throwsIndex("seats(3, 1)", () -> hall.seats(3, 1)),
+            hall -> Due.throwsIndex("seats(-1, 3)", () -> hall.seats(-1, 3)),
+            hall -> Due.throwsIndex("seats(3, 4)", () -> hall.seats(3, 4)));
     }
 
     @Holds(promise = 0, sentence = "What throws changes nothing")
     static void tellThatThrowsChangesNothing() {
-        MatchHall hall = Halls.seated();
-        dueUnchanged(hall, 4, 3, () -> {
-            for (int resident = 0; resident < 4; resident++) {
-                int who = resident;
-                Due.throwsIndex("tell(" + who + ", 3)", () -> hall.tell(who, 3));
-                Due.throwsIndex("tell(" + who + ", -2)", () -> hall.tell(who, -2));
-            }
-            Due.throwsIndex("tell(4, 0)", () -> hall.tell(4, 0));
-            Due.throwsIndex("tell(-1, NONE)", () -> hall.tell(-1, NONE));
-        });
+        dueUnchanged(
+            hall -> Due.throwsIndex("tell(0, 3)", () -> hall.tell(0, 3)),
+            hall -> Due.throwsIndex("tell(1, -2)", () -> hall.tell(1, -2)),
+            hall -> Due.throwsIndex("tell(2, 6)", () -> hall.tell(2, 6)),
+            hall -> Due.throwsIndex("tell(4, 0)", () -> hall.tell(4, 0)),
+            hall -> Due.throwsIndex("tell(-1, NONE)", () -> hall.tell(-1, NONE)));
     }
 
     @Holds(promise = 0, sentence = "What throws changes nothing")
     static void takeThatThrowsChangesNothing() {
-        MatchHall hall = Halls.seated();
-        dueUnchanged(hall, 4, 3, () -> {
-            Due.throwsIndex("take(3)", () -> hall.take(3));
-            Due.throwsIndex("take(-1)", () -> hall.take(-1));
-        });
+        dueUnchanged(
+            hall -> Due.throwsIndex("take(3)", () -> hall.take(3)),
+            hall -> Due.throwsIndex("take(-1)", () -> hall.take(-1)));
         MatchHall fresh = Halls.of("0", "0");
         fresh.tell(0, 0);
         Due.throwsIndex("take(0) of nothing", () -> fresh.take(0));

@@ -160,6 +160,9 @@ public final class ToldSentencesTest {
         hall.seats(0, 3);
         Halls.tellAll(hall, "0-00");
         Due.is("three in three seats", hall.fits(), 1);
+        hall.tell(1, 0);
+        Due.is("four in three seats", hall.fits(), 0);
+        hall.tell(1, NONE);
         hall.seats(0, 2);
         Due.is("three in two seats", hall.fits(), 0);
         hall.tell(2, NONE);
@@ -231,7 +234,7 @@ public final class ToldSentencesTest {
 
     // ---- Promise 21: blocking
 
-    @Holds(promise = 21, sentence = "by residents, then by hospitals: 8 times the resident, and the hospital")
+    @Holds(promise = 21, sentence = "Pair i that blocks what is told, by residents, then by hospitals: 8 times the resident, and the hospital.")
     static void blockingOfAllPairs() {
         MatchHall hall = Halls.triangle();
         for (int i = 0; i < 36; i++) {

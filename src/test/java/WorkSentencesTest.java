@@ -170,6 +170,15 @@ public final class WorkSentencesTest {
         Due.is("costs", Halls.costs(hall, 0), "2 1 3 1 2");
     }
 
+    @Holds(promise = 10, sentence = "both sums together (2)")
+    static void costOfBothSumsTogether() {
+        MatchHall hall = Halls.chain();
+        for (int matching = 0; matching < 3; matching++) {
+            Due.is("cost(" + matching + ", 2)", hall.cost(matching, 2), 6);
+        }
+        Due.is("when all have the first places", Halls.worked("0", "0").cost(0, 2), 0);
+    }
+
     @Holds(promise = 10, sentence = "the size of their difference (3)")
     static void costOfTheDifferenceIsNeverBelowNought() {
         MatchHall hall = Halls.two();
