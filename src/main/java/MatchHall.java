@@ -649,22 +649,28 @@ public final class MatchHall {
         }
 
         /** The resident's number is the depth: no level is deeper than the last resident's. */
-        private void seatFrom(int resident) {
-            if (resident >= hall.residents) {
+        private void seatFrom(int first) {
+            int resident = nextToSeat(first);
+            if (resident == NONE) {
                 // only pairs are tried, and no more than there are seats: it is a matching
                 if (trial.blockingPair(0) == NONE) {
                     stables.add(trial);
                 }
                 return;
             }
-            if (bestPlace[resident] == NONE) {
-                // it has no hospital in the trial from the start on
-                seatFrom(resident + 1);
-                return;
-            }
             for (int place = bestPlace[resident]; place < hall.ofResidents.sizes[resident]; place++) {
                 trySeat(resident, hall.ofResidents.at(resident, place));
             }
+        }
+
+        /** Those between have no hospital in any stable matching, nor in the trial from the start on. */
+        private int nextToSeat(int first) {
+            for (int resident = first; resident < hall.residents; resident++) {
+                if (bestPlace[resident] != NONE) {
+                    return resident;
+                }
+            }
+            return NONE;
         }
 
         private void trySeat(int resident, int hospital) {
